@@ -61,7 +61,13 @@ final class Checks {
         return bench;
     }
 
-    /** Compiles a script and runs it with all the steps there are. */
+    static ScriptBench compiledAndRun(String script) {
+        ScriptBench bench = compiled(script);
+        bench.run(600);
+        return bench;
+    }
+
+    /** Compiles a script and runs it with all the steps there are: how it ends. */
     static ScriptBench ended(String script, int how, int sort, long number) {
         ScriptBench bench = compiled(script);
         due("run of " + script, bench.run(600), how);
