@@ -10,6 +10,7 @@ public final class CompileTest {
         failedCompileLeavesNoScript();
         compileForgetsTheRun();
         nothingWasRun();
+        nothingIsLeftOfTheOldScript();
         Checks.end();
     }
 
@@ -77,6 +78,8 @@ public final class CompileTest {
         refused("NEXT", ScriptBench.OUTSIDE, 0);
         refused("WHILE BREAK NIL", ScriptBench.OUTSIDE, 1);
         refused("WHILE NEXT NIL", ScriptBench.OUTSIDE, 1);
+        refused("WHILE SEQ BREAK NIL NIL", ScriptBench.OUTSIDE, 2);
+        refused("WHILE SEQ NIL NEXT NIL", ScriptBench.OUTSIDE, 3);
         refused("SEQ WHILE NIL BREAK BREAK", ScriptBench.OUTSIDE, 4);
         refused("WHILE NIL FN 0 BREAK", ScriptBench.OUTSIDE, 3);
         refused("WHILE NIL FN 0 WHILE NEXT NIL", ScriptBench.OUTSIDE, 4);
@@ -151,5 +154,25 @@ public final class CompileTest {
     private static void nothingWasRun() {
         ScriptBench bench = Checks.compiled("HOST NUM 1");
         noLatestRun(bench);
+    }
+
+    private static void nothingIsLeftOfTheOldScript() {
+        ScriptBench bench = Checks.gives("APP FN 0 YIELD VAR 0 NUM 4", Checks.GENERATOR, 0);
+        bench.wipe();
+        Checks.append(bench, "APP FN 0 HOST VAR 0 NUM 4");
+        Checks.due("compile", bench.compile(), ScriptBench.OK);
+        Checks.due("GENERATOR FNs", bench.info(1), 0);
+        Checks.due("run", bench.run(600), ScriptBench.VALUE);
+        Checks.due("sort", bench.sort(), Checks.INT);
+        Checks.due("number", bench.number(), 4);
+        bench.wipe();
+        Checks.append(bench, "LET 0 NUM 1 LET 1 NUM 2 FN 2 ADD VAR 0 VAR 1");
+        bench.compile();
+        Checks.due("OUTSIDE variables", bench.info(3), 2);
+        bench.wipe();
+        Checks.append(bench, "FN 0 NIL");
+        bench.compile();
+        Checks.due("no CAPTURED", bench.info(2), 0);
+        Checks.due("no OUTSIDE variables", bench.info(3), 0);
     }
 }

@@ -101,6 +101,10 @@ public final class GeneratorTest {
         bench = Checks.gives(made + "SEQ RESUME VAR 0 NIL SEQ CLOSE VAR 0 SEQ CLOSE VAR 0 RESUME VAR 0 NIL", Checks.NIL, 0);
         Checks.noted(bench, 1);
         Checks.gives(made + "SEQ CLOSE VAR 0 RESUME VAR 0 NUM 4", Checks.NIL, 0);
+        // CLOSING ends at the generator's body; who closed it goes on.
+        Checks.gives(made + "SEQ RESUME VAR 0 NIL SEQ CLOSE VAR 0 NUM 7", Checks.INT, 7);
+        Checks.gives(made + "SEQ RESUME VAR 0 NIL SAME NIL CLOSE VAR 0", Checks.INT, 1);
+        Checks.gives(made + "SEQ RESUME VAR 0 NIL SEQ CLOSE VAR 0 DONE VAR 0", Checks.INT, 1);
         // TRY does not catch CLOSING.
         bench = Checks.gives("LET 0 APP FN 1 TRY 2 YIELD NIL HOST NUM 3 NIL SEQ RESUME VAR 0 NIL CLOSE VAR 0", Checks.NIL, 0);
         Checks.noted(bench);
