@@ -1,3 +1,4 @@
+import java.util.ArrayList;
 import java.util.List;
 
 /** What the tests share: scripts written as words, and answers compared with those that are due. */
@@ -32,17 +33,25 @@ final class Checks {
         }
     }
 
-    /** Appends the tokens of a script such as "LET 0 NUM 5 VAR 0"; NUM and names have an operand. */
-    static void append(ScriptBench bench, String script) {
+    /** The tokens (kind, operand) of a script such as "LET 0 NUM 5 VAR 0"; NUM and names have an operand. */
+    static List<int[]> tokens(String script) {
+        List<int[]> tokens = new ArrayList<>();
         String[] words = script.trim().split("\\s+");
-        for (int i = 0; i < words.length; i++) {
+        for (int i = 0; i < words.length && !script.isBlank(); i++) {
             int kind = KINDS.indexOf(words[i]);
             if (kind < 0) {
                 throw new IllegalArgumentException("no kind: " + words[i] + " in " + script);
             }
             boolean hasOperand = kind == 0 || (kind >= 2 && kind <= 5) || kind == 20;
             int operand = hasOperand ? Integer.parseInt(words[++i]) : 0;
-            due("token " + KINDS.get(kind) + " of " + script, bench.token(kind, operand), true);
+            tokens.add(new int[] {kind, operand});
+        }
+        return tokens;
+    }
+
+    static void append(ScriptBench bench, String script) {
+        for (int[] token : tokens(script)) {
+            due("token " + KINDS.get(token[0]) + " of " + script, bench.token(token[0], token[1]), true);
         }
     }
 

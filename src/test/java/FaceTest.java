@@ -31,6 +31,7 @@ public final class FaceTest {
         String text = Files.readString(Path.of("src/main/java/ScriptBench.java"));
         String code = text.replaceAll("(?s)/\\*.*?\\*/", "").replaceAll("//[^\n]*", "");
         words(code);
+        loops(code);
         callsInArguments(code);
         Map<String, String> bodies = bodies(code);
         for (Map.Entry<String, String> body : bodies.entrySet()) {
@@ -120,6 +121,16 @@ public final class FaceTest {
             String line = code.substring(start, code.indexOf('\n', start));
             boolean inField = line.matches(" {4}private final \\w+\\[\\] \\w+ = new \\w+\\[[A-Z_0-9]+\\];");
             Checks.due("made in a field's initialiser: " + line.trim(), inField, true);
+        }
+    }
+
+    /** Rule 8: each loop counts towards a bound in its own first line. */
+    private static void loops(String code) {
+        Checks.due("a loop with while or do", Pattern.compile("\\b(while|do)\\b").matcher(code).find(), false);
+        Pattern counted = Pattern.compile("for \\(int (\\w+) = [^;]+; \\1 (?:<|>=) \\w+(?:\\[\\w+\\])?(?: && [^;|]+)?; \\1(?:\\+\\+|--)\\) \\{");
+        Matcher loop = Pattern.compile("\\bfor\\b[^\n]*").matcher(code);
+        while (loop.find()) {
+            Checks.due("counts towards a bound: " + loop.group(), counted.matcher(loop.group()).matches(), true);
         }
     }
 
