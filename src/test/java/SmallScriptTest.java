@@ -2,9 +2,9 @@ import java.util.ArrayList;
 import java.util.List;
 
 /**
- * All promises: every script there is, as long as it is small, against the plain interpreter. The other
- * tests try what someone thought of; here nothing is left out up to the size. With an argument of 1 the
- * sizes are greater by 1, which takes some minutes.
+ * All promises: every script of the tokens below, as long as it is small, against the plain interpreter.
+ * The other tests try what someone thought of; of these tokens nothing is left out up to the size. With an
+ * argument of 1 the sizes are greater by 1, which takes some minutes.
  */
 public final class SmallScriptTest {
     private static final int ROW_SIZE = 3, SCRIPT_SIZE = 4, BODY_SIZE = 5, USES = 3;
